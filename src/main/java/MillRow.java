@@ -942,8 +942,9 @@ public final class MillRow {
             whole = cap * (1_000 - thrown) / 1_000;
         }
 
-        int heldAt(int degree) {
-            return Math.max(0, Math.min(whole, whole * (100 + 8 * slant - degree) / 60));
+        int heldAt(int at) {
+            int held = whole * (100 + 8 * slant - at) / 60;
+            return held < 0 ? 0 : held > whole ? whole : held;
         }
 
         int lastDegree(int pace) {
