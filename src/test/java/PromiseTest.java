@@ -178,6 +178,13 @@ public final class PromiseTest {
         due("the last holds", x.told(2, 8), 28);
         due("31 statements", tell(x, 2, b + " x"), NONE);
         due("31 statements", x.fault(), b.length() + 1);
+        due("31 good ones", tell(x, 2, b + "nail 3;"), NONE);
+        due("31 good ones", x.fault(), b.length());
+        for (int i = 0; i < 35; i++) {
+            x.feed(0x3b3b3b3b, 0x3b3b3b3b, 0x3b3b3b3b, 0x3b3b3b3b, 0x3b3b3b3b);
+        }
+        due("700 tokens", x.mill(2, 700), NONE);
+        due("700 tokens", x.fault(), 0);
     }
 
     private static void millInPlace() {
@@ -218,10 +225,28 @@ public final class PromiseTest {
             SHORT + "gate 5 if hour<<1;", SHORT + "gate 5 hour<1;", SHORT + "gate 5 if if;", SHORT + "gate;",
             SHORT + "Gate 3;", SHORT + "rub 3,", SHORT + "rub 3\t;", SHORT + "wheel", SHORT + "pond 10000;",
             SHORT + "pace 0;", SHORT + "gate 5 if hour 3", SHORT + "gate 5 if hour < 3 3", SHORT + ";",
-            "wheel over 3 wide 2 buckets 4 deep 5 at 3 slant 4;", "wheel\u00e9", " \n wheel under\n1"};
+            "wheel over 3 wide 2 buckets 4 deep 5 at 3 slant 4;", "wheel over 3 wide 2 buckets 4 deep 5 slant 10;",
+            "wheel over 3 wide 2 buckets 4 deep 5 at 91;", "wheel over 3 wide 2 buckets 4 deep 25;", SHORT + "nail 101;",
+            SHORT + "rub 10000;", SHORT + "gate 1000;", SHORT + "pond 0;", SHORT + "pace 301;",
+            "wheelz over 3", "xheel over 3 wide 2 buckets 4 deep 5;", "pond 5;", "wheel pond 5;", "wheel over pond 5;",
+            "wheel over 3 pond 5;", "wheel over 3 wide pond 5;", "wheel over 3 wide 2 pond 5;", "wheel over 3 wide 2 buckets pond 5;",
+            "wheel over 3 wide 2 buckets 4 pond 5;", "wheel over 3 wide 2 buckets 4 deep pond 5;",
+            "wheel over 3 wide 2 buckets 4 deep 5 slant pond 5;", "wheel over 3 wide 2 buckets 4 deep 5 at pond 5;",
+            "wheel over 3 wide 2 buckets 4 deep 5 pond 5;", SHORT + "pond ;", SHORT + "gate 3 if ;", SHORT + "gate 3 if hour;",
+            SHORT + "gate 3 if hour<;", SHORT + "gate 3 if hour<3 not hour<4;", SHORT + "gate 3 if ();",
+            "wheel\u00e9", " \n wheel under\n1"};
         int[] places = {0, 2, 5, 6, 0, 10, 11, 11, 11, 15, 18, 18, 13, 28, 35, 37 + 21, 37 + 13, 37 + 18, 37 + 15,
             37 + 15, 37 + 7, 37 + 10, 37 + 4, 37, 37 + 5, 37 + 5, 37, 37 + 5,
-            37 + 5, 37 + 15, 37 + 19, 37, 42, 5, 15};
+            37 + 5, 37 + 15, 37 + 19, 37, 42, 43,
+            40, 35, 37 + 5,
+            37 + 4, 37 + 5, 37 + 5, 37 + 5,
+            0, 0, 0, 6, 11,
+            13, 18, 20, 28,
+            30, 35,
+            43, 40,
+            37, 42, 47, 51,
+            52, 54, 48,
+            5, 15};
         for (int i = 0; i < texts.length; i++) {
             due("mill of " + texts[i], tell(x, i % 6, texts[i]), NONE);
             due("fault of " + texts[i], x.fault(), places[i]);
@@ -270,6 +295,10 @@ public final class PromiseTest {
         due("LAST where all is thrown", y.told(2, 16), 0);
         x.day(0, 10, false);
         x.hours(1);
+        MillRow z = with(BASE + "pond 1;gate 0;");
+        z.day(0, 10, false);
+        z.hours(1);
+        due("LEVEL of the least ROOM", z.told(0, 14), 100);
         due("what has come to a pond", x.told(0, 13), 6);
         due("LEVEL", x.told(0, 14), 6);
         due("nothing on the way", x.told(0, 15), 0);
@@ -437,6 +466,7 @@ public final class PromiseTest {
         due("fall 1", x.parts(0, 6000, 1), 2972580L * 100 / (6000 * 60));
         due("fall 99", x.parts(0, 6000, 99), 2972580L * 100 / (6000 * 60 * 99));
         due("under by head 60", x.parts(1, 6000, 5), 288437L * 100 / (6000 * 60 * 5));
+        due("flow 1", with("wheel over 10 wide 2 buckets 4 deep 12;pace 1;").parts(0, 1, 1) > 0, true);
         due("no flow", x.parts(0, 0, 12), NONE);
         due("flow", x.parts(0, 100_000, 12), NONE);
         due("fall 0", x.parts(0, 6000, 0), NONE);
@@ -448,27 +478,34 @@ public final class PromiseTest {
         String rest = " deep 7 slant 7 at 67;pace 232;rub 53;";
         MillRow x = with("wheel under 9 wide 3 buckets 12" + rest);
         MillRow y = new MillRow();
-        long[][] all = new long[16 * 20][];
-        int many = 0;
-        for (int size = 5; size <= 20; size++) {
-            for (int m = 4; m <= 80; m += 4) {
-                tell(y, 0, "wheel over " + size + " wide 3 buckets " + m + rest);
-                long one = y.gives(0, 4_000, 232, 0, 0);
-                all[many++] = new long[] {size, m, one, one + y.gives(0, 91_700, 232, 0, 0)};
+        int[][] flows = {{40, 917}, {917, 40}, {3, 4}, {0, 999}, {250, 0}, {700, 701}};
+        boolean moreByOne = false;
+        for (int[] two : flows) {
+            long[][] all = new long[16 * 20][];
+            int n = 0;
+            for (int size = 5; size <= 20; size++) {
+                for (int many = 4; many <= 80; many += 4) {
+                    y = y.count(3) > 0 || n % 16 == 0 ? new MillRow() : y;
+                    tell(y, 0, "wheel over " + size + " wide 3 buckets " + many + rest);
+                    long one = y.gives(0, two[0] * 100, 232, 0, 0);
+                    all[n++] = new long[] {size, many, one, one + y.gives(0, two[1] * 100, 232, 0, 0)};
+                }
             }
+            long[] best = all[0];
+            for (long[] a : all) {
+                best = a[3] > best[3] ? a : best;
+            }
+            long more = 0;
+            for (long[] a : all) {
+                more += a[2] > best[2] ? 1 : 0;
+            }
+            int both = two[0] * 1000 + two[1];
+            due("grid's size by " + both, x.grid(0, 5, 20, both, 0), best[0]);
+            due("grid's many by " + both, x.grid(0, 5, 20, both, 1), best[1]);
+            due("grid's more by " + both, x.grid(0, 5, 20, both, 2), more);
+            moreByOne |= more > 0;
         }
-        long[] best = all[0];
-        for (long[] a : all) {
-            best = a[3] > best[3] ? a : best;
-        }
-        long more = 0;
-        for (long[] a : all) {
-            more += a[2] > best[2] ? 1 : 0;
-        }
-        due("grid's size", x.grid(0, 5, 20, 40_917, 0), best[0]);
-        due("grid's many", x.grid(0, 5, 20, 40_917, 1), best[1]);
-        due("grid's more", x.grid(0, 5, 20, 40_917, 2), more);
-        due("some more by one alone", more > 0, true);
+        due("some more by one alone", moreByOne, true);
         due("the least of several", x.grid(0, 2, 40, 0, 0), 2);
         due("the least of several", x.grid(0, 2, 40, 0, 1), 4);
         due("none best", x.grid(0, 2, 40, 0, 2), 0);
@@ -498,6 +535,13 @@ public final class PromiseTest {
         due("under", x.model(1, 2, 500, 0), NONE);
         due("f 1", x.model(0, 1, 500, 0), NONE);
         due("f 11", x.model(0, 11, 500, 0), NONE);
+        MillRow z = with("wheel over 2 wide 1 buckets 12 deep 1;", "wheel over 21 wide 1 buckets 12 deep 1;",
+                "wheel over 2 wide 11 buckets 12 deep 1;", "wheel over 2 wide 1 buckets 12 deep 13;");
+        due("f 11 of a small one", z.model(0, 11, 500, 0), NONE);
+        due("f 10 of a small one", z.model(0, 10, 500, 0), 10_000 * z.work(0, 500, 50, 0));
+        due("SIZE alone is too large", z.model(1, 2, 500, 0), NONE);
+        due("WIDE alone is too large", z.model(2, 2, 500, 0), NONE);
+        due("DEEP alone is too large", z.model(3, 2, 500, 0), NONE);
         due("flow", x.model(0, 2, 100_000, 0), NONE);
         due("what 2", x.model(0, 2, 500, 2), NONE);
         due("not told", x.model(5, 2, 500, 0), NONE);
@@ -574,6 +618,11 @@ public final class PromiseTest {
         due("ground by what goes through", x.ground(1, 0), x.gives(1, 1665, 50, 60, 0));
         due("came", x.water(0), 2 * 59_999);
         due("adds up", x.water(0), x.water(1) + x.water(2) + x.water(3));
+        MillRow y = with(UNDER + "pond 700;gate 700;");
+        y.day(0, 1000, false);
+        y.hours(2);
+        due("under by head 60", y.ground(0, 0), 2 * y.gives(0, 1000, 50, 60, 0));
+        due("hours", y.ground(0, 1), 2);
     }
 
     private static void rules() {
@@ -622,6 +671,13 @@ public final class PromiseTest {
         x.hours(1);
         due("empty again", x.told(0, 15), 50);
         due("not waded", x.ground(0, 2), 1);
+        MillRow y = with(BASE + "pond 500;gate 1;nail 0;", BASE + "pond 100;");
+        y.day(0, 100, false);
+        y.hours(2);
+        due("LEVEL 1", y.told(1, 14), 1);
+        due("nothing BELOW yet", y.ground(0, 2), 0);
+        y.hours(1);
+        due("waded by one of water and one BELOW", y.ground(0, 2), 1);
     }
 
     private static void iceAndDays() {
@@ -656,7 +712,12 @@ public final class PromiseTest {
         java.math.BigInteger z = java.math.BigInteger.ONE;
         int ten = 0;
         int three = 0;
-        for (int i = 0; i < 200; i++) {
+        for (int i = 0; i < 1200; i++) {
+            if (i > 0 && i % 100 == 0) {
+                x = new MillRow();
+                x.seed(i);
+                z = java.math.BigInteger.valueOf(i);
+            }
             x.day(i % 40, 7_000, false);
             z = z.multiply(new java.math.BigInteger("6364136223846793005")).add(new java.math.BigInteger("1442695040888963407"))
                     .mod(java.math.BigInteger.TWO.pow(64));
@@ -765,6 +826,8 @@ public final class PromiseTest {
                 due("shift " + way + " of " + k, y.shift(7, 400, way, k), z.ground(2 + k, 0));
             }
         }
+        due("open 0", y.shift(7, 0, 0, 0), 0);
+        due("open 0", y.rests(7, 0, NONE), 64);
         due("k 3", y.shift(7, 400, 0, 3), NONE);
         due("k -1", y.shift(7, 400, 0, -1), NONE);
         due("way 64", y.shift(7, 400, 64, 0), NONE);
@@ -839,6 +902,16 @@ public final class PromiseTest {
             due("open", x.rests(5, 1000, NONE), NONE);
             due("open", x.all(5, -1, 0), NONE);
         }
+        MillRow y = with(BASE + "pond 1000;gate 9;");
+        y.day(0, 1000, false);
+        y.hours(18);
+        due("water comes from 18 to 24 alone", y.rests(6, 600, NONE), 1);
+        due("water comes from 18 to 24 alone", y.rests(6, 600, 0), 48);
+        y.hours(6);
+        y.day(2, 1000, false);
+        y.hours(18);
+        due("water comes from 0 to 18 tomorrow", y.rests(6, 600, NONE), 3);
+        due("water comes from 0 to 18 tomorrow", y.rests(6, 600, 0), 0);
         due("no mills", new MillRow().rests(5, 250, NONE), NONE);
         due("no mills", new MillRow().all(5, 250, 0), NONE);
         due("all rest without water", with(texts).rests(5, 250, NONE), 64);
@@ -876,8 +949,14 @@ public final class PromiseTest {
         x.guilt(0, 99);
         due("alone", x.raised(0), 1_000_000);
         due("weights stay", x.raised(1), 0);
+        tell(x, 5, BASE);
+        due("of three", x.raised(5), 10_000);
+        MillRow y = with(BASE + "nail 5;", BASE, BASE, BASE, BASE, BASE);
+        y.guilt(5, 3);
+        due("of six", y.raised(5), 375_000);
         tell(x, 2, BASE);
-        due("of three", x.raised(2), 10_000);
+        x.guilt(5, 0);
+        due("of four", x.raised(2), 10_000);
     }
 
     private static void raisedEdges() {
@@ -1011,6 +1090,22 @@ public final class PromiseTest {
         due("and left", x.night(0, 10, 23, 143, 2), 1);
         due("not all of it", x.night(0, 10, 23, 145, 0), 0);
         due("left", x.night(0, 10, 23, 145, 2), 144);
+        for (int flow = 0; flow < 900; flow += 7) {
+            int open = 1 + flow * 3 % 997;
+            int pond = 0;
+            int through = 0;
+            for (int h = 0; h < 24; h++) {
+                pond = Math.min(1000, pond + 60 * flow / 100);
+                if (h >= 8 && pond >= open) {
+                    through++;
+                    pond -= open;
+                }
+            }
+            due("night's hours", x.night(0, flow, 8, open, 0), through);
+            due("night's yield", x.night(0, flow, 8, open, 1), through * x.gives(0, 100 * open / 60, 50, 60, 0));
+            due("night's rest", x.night(0, flow, 8, open, 2), pond);
+        }
+        due("under by head 60", x.night(1, 5000, 0, 50, 1), 24 * x.gives(1, 83, 50, 60, 0));
         due("room", x.night(1, 99_999, 0, 100, 2), 0);
         due("beyond room", x.night(1, 99_999, 0, 101, 0), 0);
         due("beyond room", x.night(1, 99_999, 23, 101, 2), 100);
@@ -1032,6 +1127,14 @@ public final class PromiseTest {
             due("versus", x.versus(0, 1, 5000, fall), x.best(1, 5000, head, 0, 1) * 100 / x.best(0, 5000, head, 0, 1));
         }
         due("much", x.versus(2, 3, 99_999, 99), x.best(3, 99_999, 240, 0, 1) * 100 / x.best(2, 99_999, 240, 0, 1));
+        MillRow y = with("wheel over 3 wide 1 buckets 35 deep 1 slant 3 at 32;rub 29;", "wheel under 40 wide 20 buckets 20 deep 12;",
+                "wheel over 10 wide 20 buckets 30 deep 12;");
+        due("so little over", y.best(0, 99_999, 0, 0, 1), 1);
+        due("at most", y.versus(0, 1, 99_999, 99), 2_000_000_000);
+        for (int flow = 0; flow < 99_999; flow += 3_333) {
+            long one = y.best(2, flow, 60, 0, 1);
+            due("wide ones", y.versus(2, 1, flow, 5), one == 0 ? NONE : y.best(1, flow, 60, 0, 1) * 100 / one);
+        }
         due("the one over has none", x.versus(0, 1, 0, 5), NONE);
         due("both over", x.versus(0, 2, 5000, 5), NONE);
         due("both under", x.versus(1, 3, 5000, 5), NONE);
@@ -1183,6 +1286,14 @@ public final class PromiseTest {
         due("open -1", x.served(0, -1), NONE);
         due("open 1000", x.served(0, 1000), NONE);
         due("not told", x.served(1, 600), NONE);
+        MillRow z = with(BASE + "pond 1000;gate 600;");
+        z.day(0, 1000, false);
+        z.hours(5);
+        z.order(3, (int) (3 * hour));
+        z.order(4, 1);
+        due("what was ground before is for none", z.served(0, 600), 3);
+        z.order(4, (int) hour);
+        due("what was ground before is for none", z.served(0, 600), 3);
         MillRow y = with(BASE + "pond 600;gate 600;", BASE + "pond 600;gate 0;");
         y.day(0, 1000, false);
         y.order(2, (int) y.gives(1, 1000, 50, 60, 0));
