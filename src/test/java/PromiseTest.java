@@ -154,6 +154,8 @@ public final class PromiseTest {
         MillRow x = new MillRow();
         due("one statement", tell(x, 0, SHORT), 1);
         due("six", tell(x, 5, SHORT + "pond 1;nail 2;pace 3;rub 4;gate 5;"), 6);
+        due("the least", tell(x, 5, "wheel over 2 wide 1 buckets 4 deep 1 slant 0 at 0;pond 1;nail 0;pace 1;rub 0;gate 0;"), 6);
+        due("the most", tell(x, 5, "wheel over 40 wide 20 buckets 80 deep 24 slant 9 at 90;pond 9999;nail 100;pace 300;rub 9999;gate 999;"), 6);
         put(x, SHORT.getBytes());
         int there = x.count(1);
         due("n beyond", x.mill(0, there + 1), -2);
@@ -371,6 +373,23 @@ public final class PromiseTest {
         due("thrown at most", x.bucket(1, 99_999, 300, 3), 1000);
         due("has nothing then", x.bucket(1, 99_999, 300, 100), 0);
         due("thrown", x.bucket(1, 99_999, 99, 3), 99 * 99 * 40 / 1000);
+        for (int many = 4; many <= 80; many++) {
+            MillRow z = with("wheel over 6 wide 3 buckets " + many + " deep 9 at " + many / 2 + ";");
+            long had = z.bucket(0, 9_000, 70, 2);
+            long push = 0;
+            long work = 0;
+            int k = 0;
+            for (int at = many / 2; at < 180; k++, at = many / 2 + 360 * k / many) {
+                int next = Math.min(180, many / 2 + 360 * (k + 1) / many);
+                had = Math.min(had, z.holds(0, 70, at));
+                due("has of " + many + " at " + k, z.bucket(0, 9_000, 70, 100 + k), had);
+                push += had * sin(at);
+                work += had * (cos(at) - cos(next));
+            }
+            due("places of " + many, z.bucket(0, 9_000, 70, 4), k);
+            due("push of " + many, z.bucket(0, 9_000, 70, 5), push * 6 / 2000);
+            due("work of " + many, z.bucket(0, 9_000, 70, 6), work * 6 / 2);
+        }
         MillRow y = with("wheel over 5 wide 20 buckets 17 deep 24;");
         due("splash of many", y.bucket(0, 1, 40, 1), 2 * 2 + 1);
         due("splash cut", y.bucket(0, 1, 39, 1), 2 * 2);
@@ -419,6 +438,9 @@ public final class PromiseTest {
         due("head -1", x.work(0, 6000, 50, -1), NONE);
         due("rim cut", x.work(0, 6000, 1, 3), 6000L * (240 - 3) * 3 / 2880);
         due("a root that is whole", x.work(0, 2880, 1, 75), (1200 - 3) * 3);
+        for (int head = 1; head <= 240; head++) {
+            due("head " + head, x.work(0, 2880, 1, head), ((long) Math.sqrt(19_200 * head) - 3) * 3);
+        }
     }
 
     private static void gives() {
@@ -450,6 +472,7 @@ public final class PromiseTest {
                 due("best yield", x.best(mill, 3000, 90, below, 1), x.gives(mill, 3000, pace, 90, below));
             }
         }
+        due("the greatest pace", with("wheel under 2 wide 1 buckets 4 deep 1;").best(0, 9_000, 240, 0, 0), 300);
         due("nothing by any", x.best(0, 0, 0, 0, 0), 1);
         due("nothing by any", x.best(0, 0, 0, 0, 1), 0);
         due("what 2", x.best(0, 0, 0, 0, 2), NONE);
@@ -509,6 +532,7 @@ public final class PromiseTest {
         due("the least of several", x.grid(0, 2, 40, 0, 0), 2);
         due("the least of several", x.grid(0, 2, 40, 0, 1), 4);
         due("none best", x.grid(0, 2, 40, 0, 2), 0);
+        due("the greatest size", with("wheel over 9 wide 3 buckets 12 deep 6 slant 2 at 20;pace 33;").grid(0, 5, 8, 20_060, 0), 8);
         due("one size", x.grid(0, 40, 40, 999_999, 0), 40);
         due("least 1", x.grid(0, 1, 40, 0, 0), NONE);
         due("fall 41", x.grid(0, 2, 41, 0, 0), NONE);
@@ -678,6 +702,11 @@ public final class PromiseTest {
         due("nothing BELOW yet", y.ground(0, 2), 0);
         y.hours(1);
         due("waded by one of water and one BELOW", y.ground(0, 2), 1);
+        MillRow z = with(BASE + "pond 1;gate 0;nail 0;", BASE + "pond 100;");
+        z.day(0, 100, false);
+        z.hours(5);
+        due("over the brim alone", z.told(1, 14) > 50, true);
+        due("no wading without water through the gate", z.ground(0, 2), 0);
     }
 
     private static void iceAndDays() {
@@ -1222,6 +1251,7 @@ public final class PromiseTest {
         due("the same by two rules", x.sleep(2, 0), 12);
         due("of several the first", x.sleep(2, 1), 0);
         x.hours(12);
+        due("an odd row", with(BASE + "gate 1 if hour<7;").sleep(0, 0), 17);
         due("over midnight", x.sleep(2, 0), 16);
         due("over midnight", x.sleep(2, 1), 8);
         due("nothing stays", x.water(4), 12);
@@ -1294,6 +1324,11 @@ public final class PromiseTest {
         due("what was ground before is for none", z.served(0, 600), 3);
         z.order(4, (int) hour);
         due("what was ground before is for none", z.served(0, 600), 3);
+        MillRow last = with(BASE + "pond 1000;");
+        last.day(0, 1000, false);
+        last.order(24, (int) (24 * hour));
+        last.order(24, 1);
+        due("by the last hour", last.served(0, 600), 1);
         MillRow y = with(BASE + "pond 600;gate 600;", BASE + "pond 600;gate 0;");
         y.day(0, 1000, false);
         y.order(2, (int) y.gives(1, 1000, 50, 60, 0));
@@ -1318,6 +1353,9 @@ public final class PromiseTest {
             due("dry", x.dry(mill, least, NONE), found);
             due("no more", x.dry(mill, least, found), NONE);
         }
+        x.day(39, 99_999, true);
+        x.day(38, 99_999, false);
+        due("with ice 0", x.dry(0, 1, x.dry(0, 1, NONE) - 1), 39);
         due("never", x.dry(0, 0, NONE), 0);
         due("never", x.dry(0, -5, NONE), 0);
         due("always", x.dry(0, Integer.MAX_VALUE, NONE), 40);
