@@ -918,6 +918,9 @@ public final class MillRow {
         int thrown;
         private int whole;
         private final int[] has = new int[MOST_PLACES];
+        // by what the bucket was filled last: a day's hours ask for the same again and again
+        private int filledFlow = NONE;
+        private int filledPace = NONE;
 
         void settle(Wheel w) {
             size = w.size;
@@ -925,6 +928,7 @@ public final class MillRow {
             slant = w.slant;
             cap = 12 * w.wide * w.deep * size / many;
             places = 0;
+            filledFlow = NONE;
             for (int k = 0; k < MOST_PLACES; k++) {
                 int there = w.degree + 360 * k / many;
                 if (there >= MOST_DEGREE) {
@@ -938,6 +942,7 @@ public final class MillRow {
         }
 
         void spin(int pace) {
+            filledPace = NONE;
             thrown = Math.min(1_000, pace * pace * size / 1_000);
             whole = cap * (1_000 - thrown) / 1_000;
         }
@@ -958,6 +963,9 @@ public final class MillRow {
         }
 
         void fill(int flow, int pace) {
+            if (flow == filledFlow && pace == filledPace) {
+                return;
+            }
             offered = 10 * flow / Math.max(1, pace * many);
             splash = Math.min(100, 2 * Math.max(0, many - 3 * size) + pace * size / 200);
             gets = offered * (100 - splash) / 100;
@@ -967,6 +975,8 @@ public final class MillRow {
                 had = Math.min(had, heldAt(degree[k]));
                 has[k] = had;
             }
+            filledFlow = flow;
+            filledPace = pace;
         }
 
         int hasAt(int k) {
@@ -1036,6 +1046,9 @@ public final class MillRow {
         }
 
         long hourWork(int flow, int byPace, int head) {
+            if (flow == 0) {
+                return 0;
+            }
             if (!over) {
                 return underWork(flow, byPace, head);
             }
