@@ -289,7 +289,7 @@ public final class MillRow {
             return refusal(NOT_AS_TOLD);
         }
         now.dayFlow[day] = flow;
-        now.dayIce[day] = ice;
+        now.dayIce[day] = ice ? 1 : 0;
         return true;
     }
 
@@ -772,7 +772,7 @@ public final class MillRow {
         }
         int found = 0;
         for (int day = 0; day < DAYS; day++) {
-            long gain = now.dayIce[day] ? 0 : m.wheel.millYield(now.dayFlow[day]);
+            long gain = now.dayIce[day] == 1 ? 0 : m.wheel.millYield(now.dayFlow[day]);
             if (gain < least) {
                 if (found == k) {
                     return day;
@@ -1494,7 +1494,7 @@ public final class MillRow {
         long gone;
         long z = 1;
         final int[] dayFlow = new int[DAYS];
-        final boolean[] dayIce = new boolean[DAYS];
+        final int[] dayIce = new int[DAYS];
         final int[] pond = new int[MILLS];
         final int[] way = new int[MILLS];
         final long[] ground = new long[MILLS];
@@ -1545,7 +1545,7 @@ public final class MillRow {
 
         void passHour(Mill[] mills, Plan plan) {
             int last = lookBelow(mills);
-            int comes = dayIce[today()] ? 0 : 60 * dayFlow[today()] / 100;
+            int comes = dayIce[today()] == 1 ? 0 : 60 * dayFlow[today()] / 100;
             came += comes;
             for (int i = 0; i <= last && i < MILLS && i < mills.length; i++) {
                 Mill m = mills[i];
