@@ -608,13 +608,17 @@ public final class MillRow {
         }
         int comes = 60 * flow / 100;
         int pond = 0;
-        int through = 0;
-        for (int h = 0; h < DAY_HOURS; h++) {
+        for (int h = 0; h < hours; h++) {
             pond = Math.min(m.room, pond + comes);
-            if (h >= hours && pond >= open) {
-                pond -= open;
-                through++;
+        }
+        int through = 0;
+        for (int h = hours; h < DAY_HOURS; h++) {
+            pond = Math.min(m.room, pond + comes);
+            if (pond < open) {
+                break;
             }
+            pond -= open;
+            through++;
         }
         if (what == 1) {
             return through * m.wheel.millYield(100 * open / 60);

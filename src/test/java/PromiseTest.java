@@ -1117,15 +1117,23 @@ public final class PromiseTest {
         due("left", x.night(0, 1000, 10, 600, 2), 400);
         due("as long as there's all", x.night(0, 10, 23, 143, 0), 1);
         due("and left", x.night(0, 10, 23, 143, 2), 1);
+        due("no longer than there's all", x.night(0, 2, 0, 2, 0), 0);
+        due("no longer than there's all", x.night(0, 2, 0, 2, 1), 0);
+        due("what came in the hour without all is left", x.night(0, 2, 0, 2, 2), 1);
+        due("till it isn't all", x.night(0, 50, 10, 100, 0), 4);
+        due("yield till it isn't all", x.night(0, 50, 10, 100, 1), 4 * x.gives(0, 166, 50, 60, 0));
+        due("left when it isn't all", x.night(0, 50, 10, 100, 2), 50);
         due("not all of it", x.night(0, 10, 23, 145, 0), 0);
         due("left", x.night(0, 10, 23, 145, 2), 144);
         for (int flow = 0; flow < 900; flow += 7) {
             int open = 1 + flow * 3 % 997;
             int pond = 0;
             int through = 0;
-            for (int h = 0; h < 24; h++) {
+            boolean all = true;
+            for (int h = 0; h < 24 && all; h++) {
                 pond = Math.min(1000, pond + 60 * flow / 100);
-                if (h >= 8 && pond >= open) {
+                all = h < 8 || pond >= open;
+                if (h >= 8 && all) {
                     through++;
                     pond -= open;
                 }

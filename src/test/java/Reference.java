@@ -893,9 +893,11 @@ final class Reference {
         for (int h = 0; h < hours; h++) {
             pond = Math.min(m.room, pond + cut(60L * flow, 100));
         }
-        for (int h = hours; h < 24; h++) {
+        boolean goesOn = true;
+        for (int h = hours; h < 24 && goesOn; h++) {
             pond = Math.min(m.room, pond + cut(60L * flow, 100));
-            if (pond >= open) {
+            goesOn = pond >= open;
+            if (goesOn) {
                 pond -= open;
                 through++;
             }
