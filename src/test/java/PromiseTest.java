@@ -1,4 +1,5 @@
 import java.nio.charset.StandardCharsets;
+import java.util.Arrays;
 
 /** Each promise of the document in turn: ordinary inputs, the edges that it names, and wrong inputs. */
 public final class PromiseTest {
@@ -464,12 +465,16 @@ public final class PromiseTest {
         MillRow x = with(BASE + "rub 40;", UNDER);
         for (int mill = 0; mill < 2; mill++) {
             for (int below = 0; below <= 100; below += 25) {
-                int pace = 1;
-                for (int p = 2; p <= 300; p++) {
-                    pace = x.gives(mill, 3000, p, 90, below) > x.gives(mill, 3000, pace, 90, below) ? p : pace;
+                MillRow y = with(BASE + "rub 40;", UNDER);
+                int pace = 0;
+                long most = -1;
+                for (int p = 1; p <= 300; p++) {
+                    long gain = y.gives(mill, 3000, p, 90, below);
+                    pace = gain > most ? p : pace;
+                    most = Math.max(most, gain);
                 }
-                due("best pace", x.best(mill, 3000, 90, below, 0), pace);
-                due("best yield", x.best(mill, 3000, 90, below, 1), x.gives(mill, 3000, pace, 90, below));
+                due("best pace", y.best(mill, 3000, 90, below, 0), pace);
+                due("best yield", y.best(mill, 3000, 90, below, 1), most);
             }
         }
         due("the greatest pace", with("wheel under 2 wide 1 buckets 4 deep 1;").best(0, 9_000, 240, 0, 0), 300);
@@ -809,12 +814,12 @@ public final class PromiseTest {
         for (int d = 0; d < 4; d++) {
             x.day(d, 40 * d + 20, d == 2);
         }
-        for (int i = 0; i < 96; i++) {
-            x.hours(1);
+        for (int i = 0; i < 96; i += 3) {
+            x.hours(3);
             due("adds up", x.water(0), x.water(1) + x.water(2) + x.water(3));
             due("in ponds", x.water(1), x.told(0, 13) + x.told(1, 13) + x.told(2, 13));
             due("on the way", x.water(2), x.told(0, 15) + x.told(1, 15) + x.told(2, 15));
-            due("hours", x.water(4), i + 1);
+            due("hours", x.water(4), i + 3);
         }
         due("came", x.water(0), 24 * 12 + 24 * 36 + 24 * 84);
         due("5", x.water(5), NONE);
@@ -890,17 +895,22 @@ public final class PromiseTest {
     private static void restsAndAll() {
         String[] texts = {BASE + "pond 300;nail 0;", BASE + "pond 300;nail 10;", BASE + "pond 200;"};
         for (int many = 1; many <= 3; many++) {
-            MillRow x = with(java.util.Arrays.copyOf(texts, many));
+            MillRow x = with(Arrays.copyOf(texts, many));
             x.day(0, 300, false);
             int step = many == 1 ? 16 : many == 2 ? 4 : 1;
+            long[][] grinds = new long[64][many];
+            for (int way = 0; way < 64; way += step) {
+                for (int k = 0; k < many; k++) {
+                    grinds[way][k] = x.shift(5, 250, way, k);
+                }
+            }
             int found = 0;
             for (int way = 0; way < 64; way += step) {
                 boolean rest = true;
                 for (int k = 0; k < many; k++) {
                     int value = k == 0 ? 16 : k == 1 ? 4 : 1;
                     for (int b = 0; b < 4; b++) {
-                        int other = way + (b - way / value % 4) * value;
-                        rest &= x.shift(5, 250, other, k) <= x.shift(5, 250, way, k);
+                        rest &= grinds[way + (b - way / value % 4) * value][k] <= grinds[way][k];
                     }
                 }
                 if (rest) {
@@ -913,10 +923,7 @@ public final class PromiseTest {
             long least = 0;
             int first = NONE;
             for (int way = 0; way < 64; way += step) {
-                long poorest = Long.MAX_VALUE;
-                for (int k = 0; k < many; k++) {
-                    poorest = Math.min(poorest, x.shift(5, 250, way, k));
-                }
+                long poorest = Arrays.stream(grinds[way]).min().getAsLong();
                 first = poorest > least ? way : first;
                 least = Math.max(least, poorest);
             }
@@ -1066,6 +1073,7 @@ public final class PromiseTest {
     private static void teeth() {
         MillRow x = new MillRow();
         for (int one = 1; one <= 400; one += 7) {
+            x = new MillRow();
             for (int other = 1; other <= 400; other += 9) {
                 int turns = 1;
                 while (turns * one % other != 0) {
@@ -1089,6 +1097,7 @@ public final class PromiseTest {
     private static void losses() {
         MillRow x = with(BASE, UNDER, "wheel over 2 wide 1 buckets 4 deep 2 slant 0 at 0;pace 10;");
         for (int flow = 0; flow < 99_999; flow += 9_999) {
+            x = with(BASE, UNDER, "wheel over 2 wide 1 buckets 4 deep 2 slant 0 at 0;pace 10;");
             for (int pace = 1; pace <= 300; pace += 33) {
                 long offered = x.bucket(0, flow, pace, 0);
                 long gets = x.bucket(0, flow, pace, 2);
@@ -1126,6 +1135,7 @@ public final class PromiseTest {
         due("not all of it", x.night(0, 10, 23, 145, 0), 0);
         due("left", x.night(0, 10, 23, 145, 2), 144);
         for (int flow = 0; flow < 900; flow += 7) {
+            x = with(BASE + "pond 1000;", UNDER);
             int open = 1 + flow * 3 % 997;
             int pond = 0;
             int through = 0;

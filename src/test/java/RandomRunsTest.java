@@ -356,6 +356,7 @@ public final class RandomRunsTest {
         for (int what = -1; what <= 5; what++) {
             check("water " + what, x.water(what), r.water(what));
         }
+        left -= 4;
         well = well && x.water(0) == x.water(1) + x.water(2) + x.water(3);
     }
 
