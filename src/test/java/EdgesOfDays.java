@@ -671,6 +671,19 @@ final class EdgesOfDays extends Edges {
             due("the last is there", x.restore(2), true);
             refused(x, 1, NONE, "no room behind restore", x::image);
         });
+        edge("NONE, doing nothing but REFUSED: 3 are there.", () -> {
+            MillRow x = brook(1000, BASE);
+            for (int i = 0; i < 3; i++) {
+                x.image();
+                hours(x, 1);
+            }
+            refused(x, 1, NONE, "the 4th", x::image);
+            for (int i = 2; i >= 0; i--) {
+                due("restore " + i, x.restore(i), true);
+                due("hours of IMAGE " + i, x.water(4), i);
+                due("what came by IMAGE " + i, x.water(0), 600 * i);
+            }
+        });
         edge("IMAGES, up to 3", () -> {
             MillRow x = new MillRow();
             due("of no MILLS", x.image(), 0);

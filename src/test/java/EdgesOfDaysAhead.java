@@ -88,6 +88,10 @@ final class EdgesOfDaysAhead extends Edges {
         });
         edge("by an OPEN, else not at all, in place of its rules", () -> {
             MillRow x = brook(1000, BASE + "pond 9999;gate 600;", BASE + "pond 9999;", BASE + "pond 9999;", BASE + "pond 9999;gate 9;");
+            MillRow one = brook(1000, UNDER + "pond 9999;pace 1;");
+            due("one pint-foot in one hour, in the others not at all", one.shift(1, 1, 0, 0), 1);
+            due("in twelve hours", one.shift(12, 1, 16, 0), 12);
+            due("not at all", one.shift(12, 0, 16, 0), 0);
             due("not at all", x.shift(1, 0, 0, 0), 0);
             due("so many hours alone", x.shift(2, 600, 0, 0), 2 * x.gives(0, 1000, 50, 60, 0));
             due("no gate told", x.shift(2, 600, 25, 1), 2 * x.gives(1, 1000, 50, 60, 0));
@@ -449,6 +453,8 @@ final class EdgesOfDaysAhead extends Edges {
             }
             due("all", x.served(0, 600), 255);
             due("none", x.served(0, 0), 0);
+            refused(x, 1, NONE, "a 9th", () -> x.order(1, 999_999_999));
+            due("all still", x.served(0, 600), 255);
             MillRow y = brook(1000, BASE + "pond 1000;");
             for (int i = 0; i < 8; i++) {
                 y.order(1, 999_999_999);

@@ -250,6 +250,7 @@ final class EdgesOfTales extends Edges {
             refused(x, 1, NONE, "the 25th", () -> x.load(5));
             refused(x, 0, NONE, "not as told goes first", () -> x.load(-1));
             due("steps", x.count(6), 24);
+            due("RIM of these", x.rim(), 9_582 + 9);
         });
         edge("up to 24 steps of a turn with a LOAD each (0 to 9,999)", () -> {
             MillRow x = new MillRow();
@@ -401,6 +402,9 @@ final class EdgesOfTales extends Edges {
             due("their YIELD", x.buy(0, 6000, 89_991, 1), 9 * x.gives(0, 6000, 50, 0, 0));
             due("their price", x.buy(0, 6000, 89_991, 2), 89_991);
             due("one coin less", x.buy(0, 6000, 89_990, 0), 255);
+            refused(x, 1, NONE, "a 10th that is better", () -> x.fall(40, 1));
+            due("all nine still", x.buy(0, 6000, 99_999, 0), 511);
+            due("one still", x.buy(0, 6000, 9_999, 0), 1);
         });
     }
 

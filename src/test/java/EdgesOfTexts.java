@@ -121,6 +121,15 @@ final class EdgesOfTexts extends Edges {
             x.feed(-1, -1, -1, -1, -1);
             due("a text of 700 bytes", x.mill(5, 700), 2);
         });
+        edge("there would be more than 700", () -> {
+            for (String sign : new String[] {";", "(", "=", "\u00ff"}) {
+                MillRow x = new MillRow();
+                due("700 tokens " + sign, tell(x, 0, sign.repeat(700)), NONE);
+                due("the first", x.fault(), 0);
+                due("699 tokens behind one", tell(x, 0, "wheel " + sign.repeat(694)), NONE);
+                due("the second", x.fault(), 6);
+            }
+        });
     }
 
     /** In a text a number from the least to the most, and none that is less or more, told as this. */
@@ -453,6 +462,17 @@ final class EdgesOfTexts extends Edges {
             due("more must come", x.fault(), 0);
             due("the tape is empty behind a FAULT", x.count(1), 0);
             due("no MILL", x.count(0), 0);
+        });
+        edge("The first n bytes of the tape (which is empty then) are a MILL", () -> {
+            String text = "wheel over 12 wide 2 buckets 40 deep 15;";
+            int[] places = {0, 0, 0, 0, 0, 5, 6, 6, 6, 6, 10, 11, 11, 13, 14, 14, 14, 14, 18, 19, 20, 21, 21, 21, 21, 21, 21, 21, 28, 29, 30, 31, 32, 32, 32,
+                32, 36, 37, 38, 39};
+            for (int n = 0; n < text.length(); n++) {
+                MillRow x = new MillRow();
+                feed(x, text);
+                due("mill of the first " + n, x.mill(0, n), NONE);
+                due("fault of the first " + n + ", whatever stands behind", x.fault(), places[n]);
+            }
         });
         edge("how many STATEMENTS (\"wheel\" is one)", () -> {
             wellTold(SHORT, 1);

@@ -208,6 +208,8 @@ final class EdgesOfWheels extends Edges {
             MillRow y = with("wheel over 40 wide 20 buckets 4 deep 24 slant 9 at 90;");
             due("the most", y.bucket(0, 99_999, 1, 5), 57_600 * 1000L * 40 / 2000);
             due("at one PLACE", x.bucket(0, 1000, 10, 5), 250 * 1000 * 10 / 2000);
+            MillRow z = with("wheel over 2 wide 2 buckets 4 deep 12 slant 9 at 89;");
+            due("just not one", z.bucket(0, 4, 10, 5), 0);
             due("cut", x.bucket(1, 4, 10, 5), 1);
             due("cut", x.bucket(1, 8, 10, 5), 2);
             due("no FLOW", x.bucket(0, 0, 10, 5), 0);
